@@ -962,7 +962,8 @@ public final class SugarDice {
         }
 
         private int weight(int d, int face) {
-            return hasDie(d) && isFace(face) ? cells[d * FACES + face - 1] : 0;
+            boolean there = d >= 0 && d < dice && face >= 1 && face <= FACES;
+            return there ? cells[d * FACES + face - 1] : 0;
         }
 
         private int total(int d) {
@@ -1070,7 +1071,7 @@ public final class SugarDice {
         }
 
         private void throwFace(int d, int h, int face) {
-            if (whyNot(d, h, face) != 0) {
+            if (!hasDie(d) || !hasHand(h) || !isFace(face) || !hasRoomForThrow()) {
                 return;
             }
             System.arraycopy(cells, 0, cellsBefore, thrown * CELLS, CELLS);

@@ -68,6 +68,8 @@ public final class AntsTest {
             Check.due("lasts(" + d + ")", x.lasts(d), lasts[d]);
             Check.due("lastFace(" + d + ")", x.lastFace(d), faces[d]);
         }
+        Check.due("the one they prefer", Check.laid("die 0 0 0 0 1 0;").lastFace(0), 5);
+        Check.due("a last grain", Check.laid("die 0 0 0 1 9 9;").lastFace(0), 4);
         x.ants(8);
         Check.due("lasts of a gone one", x.lasts(1), 0);
         Check.due("lastFace of a gone one", x.lastFace(1), -1);
@@ -106,6 +108,11 @@ public final class AntsTest {
         Check.due("heat 0", x.hand(0, 0), 0);
         Check.due("no wear", x.shows(0, 0, 6), 21);
         Check.due("heat 1", x.hand(0, 0), 1);
+        Check.due("fan(1)", x.fan(1), 0);
+        x.shows(1, 1, 1);
+        Check.due("fan(1) of heat", x.fan(1), 1);
+        Check.due("heat of the other one", x.hand(0, 0), 1);
+        Check.due("heat 0 of the second", x.hand(1, 0), 0);
         Check.refused("fan(2)", Check.NO_SUCH, () -> x.fan(2));
         Check.refused("fan(-1)", Check.NO_SUCH, () -> x.fan(-1));
     }

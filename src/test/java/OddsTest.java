@@ -7,6 +7,7 @@ public final class OddsTest {
     public static void main(String[] args) {
         sets();
         greatest();
+        asked();
         wrongSets();
         bestSets();
         cannot();
@@ -114,6 +115,20 @@ public final class OddsTest {
         Check.due("once", x.once(0, 1, 8), 42998169600000000L - 10000000000000000L);
         Check.due("all faces", x.allFaces(0, 8), 191520L * 25600000000L);
         Check.due("coins", x.coins(0, 9, 10, 1), 60);
+    }
+
+    /** Each call asked behind one about another set. */
+    private static void asked() {
+        SugarDice x = Check.laid(TABLE);
+        x.sum(0, 0);
+        Check.due("sum", x.sum(4, 3), 4);
+        Check.due("mode", x.mode(1), 6);
+        Check.due("sums", x.sums(4), 72);
+        Check.due("mean", x.mean(2, 0), 1);
+        Check.due("least", x.least(1, 6), 6);
+        Check.due("mean", x.mean(4, 1), 4);
+        Check.due("mode", x.mode(2), 1);
+        Check.due("sums", x.sums(16), 84);
     }
 
     private interface OfSet {

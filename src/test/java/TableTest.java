@@ -115,6 +115,13 @@ public final class TableTest {
         faulty("salt;", 2, 0);
         faulty("dice 1 2 3 4 5 6;", 2, 0);
         faulty("di", 2, 0);
+        faulty("z", 2, 0);
+        faulty("a", 2, 0);
+        faulty("lie 1 2 3 4 5 6;", 2, 0);
+        faulty("dim 1 2 3 4 5 6;", 2, 0);
+        faulty("band 1;", 2, 0);
+        faulty("ante 1;", 2, 0);
+        faulty("die 1 2 3 4 5 6 malt;", 2, 16);
         faulty("12;", 2, 0);
         faulty("die 1 2 3 4 5;", 2, 13);
         faulty("die 1 2 3 4 5 salt;", 2, 14);

@@ -145,6 +145,17 @@ public final class ThrowsTest {
                 Check.due("past(" + k + ", " + what + ")", x.past(k, what), want[3 * k + what]);
             }
         }
+        SugarDice five = Check.laid("die 1 0 0 0 0 1 salt;".repeat(5) + "hand 0;hand 0;hand 0;hand 0;");
+        five.tray(0, 1, 20);
+        for (int i = 0; i < 20; i++) {
+            five.write(0, i, 100 * (i % 5) + 10 * (i / 5) + (i % 3 == 0 ? 6 : 1));
+        }
+        Check.due("twenty told ones", five.perform(0), 20);
+        for (int i = 0; i < 20; i++) {
+            Check.due("die of told " + i, five.past(i, 0), i % 5);
+            Check.due("hand of told " + i, five.past(i, 1), i / 5);
+            Check.due("face of told " + i, five.past(i, 2), i % 3 == 0 ? 6 : 1);
+        }
         Check.refused("past(2, 0)", Check.NO_SUCH, () -> x.past(2, 0));
         Check.refused("past(-1, 3)", Check.NO_SUCH, () -> x.past(-1, 3));
         Check.refused("past(0, 3)", Check.ARGUMENT, () -> x.past(0, 3));

@@ -33,6 +33,9 @@ public final class TrayTest {
         Check.fill(x, 1, 0, 3, 3);
         x.tray(1, 0, 2);
         Check.refused("a tray anew is of 0s", Check.ARGUMENT, () -> x.likelier(1));
+        Check.fill(x, 1, 0, 3);
+        x.tray(1, 0, 1);
+        Check.refused("the first place, too", Check.ARGUMENT, () -> x.likelier(1));
         x.tray(1, 0, 5);
         Check.fill(x, 1, 2, 1, 2, 3);
         Check.refused("a tray anew has its own places", Check.INDEX, () -> x.write(1, 3, 1));
@@ -147,6 +150,26 @@ public final class TrayTest {
         Check.read(y, TABLE);
         y.restore(1);
         Check.due("the image of a new one", y.count(1) + y.count(2) + y.count(0), 0);
+        longHistory();
+    }
+
+    /** An image has each throw's own undoing, up to the sixtieth. */
+    private static void longHistory() {
+        SugarDice x = Check.laid("die 20 20 20 20 20 20;die 1 1 1 1 1 1 salt;hand 0;hand 1;");
+        String[] states = new String[61];
+        for (int k = 0; k < 60; k++) {
+            x.lot(k);
+            states[k] = Check.state(x);
+            x.cast(k < 9 ? 0 : 1, k % 2, k);
+        }
+        x.image(2);
+        x.back(60);
+        x.evening(5, 40);
+        for (int k = 0; k < 60; k++) {
+            x.restore(2);
+            Check.due("back to throw " + k, x.back(60 - k), k);
+            Check.sameState("back to throw " + k, x, states[k]);
+        }
     }
 
     /** The tape, the fault and trays are neither in images nor undone by them or by back. */
@@ -178,6 +201,8 @@ public final class TrayTest {
         for (int what = 0; what < 8; what++) {
             Check.due("count(" + what + ")", x.count(what), want[what]);
         }
+        x.rain(20);
+        Check.due("count(5), two gone", x.count(5), 2);
         Check.due("count(8)", x.count(8), -1);
         Check.due("count(-1)", x.count(-1), -1);
         Check.due("count of the least", x.count(Integer.MIN_VALUE), -1);

@@ -29,6 +29,8 @@ public final class WitnessTest {
         Check.due("of like means one stops", x.stopping(2, 2, 2), 2);
         Check.due("a face without weight", x.stopping(1, 2, 2), 5);
         Check.due("one face alone", Check.laid("die 0 0 0 0 0 7;").stopping(0, 5, 2), 6);
+        Check.due("a total of 1", Check.laid("die 0 0 0 1 0 0;").stopping(0, 3, 0), 4);
+        Check.due("a total of 1, rest", Check.laid("die 0 0 0 1 0 0;").stopping(0, 3, 1), 0);
     }
 
     /** Every plan stops behind throw i with its face or more: the best of all of them is due. */
@@ -142,6 +144,11 @@ public final class WitnessTest {
         Check.fill(x, 0, 0, 2);
         Check.due("no weight at all", x.worn(1, 0, 10, -1), 0);
         Check.sameState("as if", x, was);
+        Check.due("no weight, a total below 0", x.worn(1, 0, -1, -1), 0);
+        SugarDice all = Check.laid("die 2 0 0 0 0 0;hand 1;hand 5;");
+        Check.fill(all, 0, 0, 1, 1);
+        Check.due("worn to nothing", all.worn(0, 0, 0, -1), 2);
+        Check.due("worn to nothing by 0, 1", all.worn(0, 0, 0, 1), 1);
         SugarDice nobody = Check.laid("die 1 2 3 4 5 6;");
         Check.fill(nobody, 0, 0, 6);
         Check.due("no hands", nobody.worn(0, 0, 21, -1), 0);
