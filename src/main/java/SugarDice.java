@@ -259,38 +259,32 @@ public final class SugarDice {
     // ---- odds
 
     public long whole(int set) throws IllegalArgumentException, IllegalStateException {
-        needSet(set);
-        needNoneGone(set);
+        needSetNotGone(set);
         return odds.wholeOf(set);
     }
 
     public long sum(int set, int sum) throws IllegalArgumentException, IllegalStateException {
-        needSet(set);
-        needNoneGone(set);
+        needSetNotGone(set);
         return odds.waysOfSum(set, sum);
     }
 
     public long least(int set, int sum) throws IllegalArgumentException, IllegalStateException {
-        needSet(set);
-        needNoneGone(set);
+        needSetNotGone(set);
         return odds.waysOfSumOrMore(set, sum);
     }
 
     public long alike(int set) throws IllegalArgumentException, IllegalStateException {
-        needSet(set);
-        needNoneGone(set);
+        needSetNotGone(set);
         return odds.waysOfOneFace(set);
     }
 
     public int mode(int set) throws IllegalArgumentException, IllegalStateException {
-        needSet(set);
-        needNoneGone(set);
+        needSetNotGone(set);
         return odds.likeliestSum(set);
     }
 
     public int sums(int set) throws IllegalArgumentException, IllegalStateException {
-        needSet(set);
-        needNoneGone(set);
+        needSetNotGone(set);
         return odds.possibleSums(set);
     }
 
@@ -312,14 +306,12 @@ public final class SugarDice {
     }
 
     public long unlike(int set) throws IllegalArgumentException, IllegalStateException {
-        needSet(set);
-        needNoneGone(set);
+        needSetNotGone(set);
         return odds.waysOfUnlikeFaces(set, false);
     }
 
     public long run(int set) throws IllegalArgumentException, IllegalStateException {
-        needSet(set);
-        needNoneGone(set);
+        needSetNotGone(set);
         return odds.waysOfUnlikeFaces(set, true);
     }
 
@@ -597,6 +589,11 @@ public final class SugarDice {
         if (odds.wholeOf(set) == 0) {
             throw new IllegalStateException("a die of the set is gone");
         }
+    }
+
+    private void needSetNotGone(int set) {
+        needSet(set);
+        needNoneGone(set);
     }
 
     private void needFaces(Tray faces) {
