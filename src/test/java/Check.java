@@ -100,8 +100,11 @@ final class Check {
     }
 
     static void sameState(String when, SugarDice x, String want) {
+        same(when, state(x), want);
+    }
+
+    static void same(String when, String got, String want) {
         checked++;
-        String got = state(x);
         if (!got.equals(want)) {
             wrong++;
             System.out.println(when + " it stands as " + got + ", due is " + want);
