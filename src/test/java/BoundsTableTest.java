@@ -17,8 +17,11 @@ public final class BoundsTableTest {
         everyByteAtALinesBegin();
         everyByteBehindANumber();
         everyByteInsideAWord();
+        everyLetterOfAWord();
+        everyTokenWhereItCantStand();
         tokensAsLongAsTheyGo();
         theFirstFaultAlongTheText();
+        aFaultAheadOfAnyOther();
         ofOneTokenTheLeastKind();
         theEndIsTheTextsLength();
         bytesBehindTheTextAreNone();
@@ -258,6 +261,45 @@ public final class BoundsTableTest {
         }
     }
 
+    /** "LINE: die .. | hand N | ants N", "[ salt ]": a word with one letter changed is another word. */
+    private static void everyLetterOfAWord() {
+        String[] words = {"die", "hand", "ants", "salt"};
+        String[] ahead = {"", "", "", "die 1 2 3 4 5 6 "};
+        String[] behind = {" 1 2 3 4 5 6;", " 1;", " 1;", ";"};
+        for (int i = 0; i < words.length; i++) {
+            read(ahead[i] + words[i] + behind[i], 1);
+            for (int at = 0; at < words[i].length(); at++) {
+                for (char letter = 'a'; letter <= 'z'; letter++) {
+                    if (letter != words[i].charAt(at)) {
+                        String other = words[i].substring(0, at) + letter + words[i].substring(at + 1);
+                        faulty(ahead[i] + other + behind[i], 2, ahead[i].length());
+                    }
+                }
+            }
+        }
+    }
+
+    /** "2 it can't stand there": behind each beginning of a line, each token but those that can. */
+    private static void everyTokenWhereItCantStand() {
+        String[] begun = {"", "hand 1; ", "die ", "die 1 ", "die 1 2 3 4 5 ", "die 0 0 0 0 0 ", "die 1 2 3 4 5 6 ",
+            "die 1 2 3 4 5 6 salt ", "hand ", "hand 1 ", "ants ", "ants 1 "};
+        String[] canStand = {"die hand ants", "die hand ants", "1 ", "1 ", "1 ", "1 ", "salt ; ", "; ", "1 ", "; ", "1 ", "; "};
+        String[] tokens = {"die", "salt", "hand", "ants", "dies", "a", "1", ";"};
+        for (int i = 0; i < begun.length; i++) {
+            for (String token : tokens) {
+                if (!java.util.Arrays.asList(canStand[i].split(" ")).contains(token)) {
+                    faulty(begun[i] + token, 2, begun[i].length());
+                    faulty(begun[i] + token + " 1 2 3 4 5 6;", 2, begun[i].length());
+                    faulty(begun[i] + token + " 1;", 2, begun[i].length());
+                    faulty(begun[i] + token + ";", 2, begun[i].length());
+                }
+            }
+            if (i >= 2) {
+                faulty(begun[i], 2, begun[i].length());
+            }
+        }
+    }
+
     /** "TOKENS, as long as they go" */
     private static void tokensAsLongAsTheyGo() {
         read("die1 2 3 4 5 6salt;hand1;ants2;", 3);
@@ -286,6 +328,24 @@ public final class BoundsTableTest {
         faulty(HAND + HAND + HAND + HAND + "hand?", 4, 28);
         faulty("die 0 0 0 0 0 0 0;", 3, 14);
         faulty("die 0 0 21 0 0 0;", 3, 8);
+    }
+
+    private static void aFaultAheadOfAnyOther() {
+        String[] behind = {"", " ?", " dies", " 99", " 0001", ";", ";;", " ;", " ; ?", " 1 2 3 4 5 6 7;", " hand 10;", " die 0 0 0 0 0 0;"};
+        for (String next : behind) {
+            faulty("?" + next, 1, 0);
+            faulty("hand 0001" + next, 1, 5);
+            faulty("dies" + next, 2, 0);
+            faulty("hand dies" + next, 2, 5);
+            faulty("hand 10" + next, 3, 5);
+            faulty("ants 0" + next, 3, 5);
+            faulty("ants 7" + next, 3, 5);
+            faulty("die 21" + next, 3, 4);
+            faulty("die 0 0 0 0 0 0" + next, 3, 14);
+            faulty("die 1 2 3 4 5 21" + next, 3, 14);
+            faulty(SIX.repeat(5) + "die" + next, 4, 80);
+            faulty(HAND.repeat(4) + "hand" + next, 4, 28);
+        }
     }
 
     /** "of one TOKEN the least kind" */

@@ -29,6 +29,7 @@ public final class BoundsThrowsTest {
         promise13AsIfThrown();
         promise14Perform();
         promise14TillOneCantBe();
+        promise14EveryNumber();
         Check.end();
     }
 
@@ -527,5 +528,27 @@ public final class BoundsThrowsTest {
         y.shows(0, 1, 5);
         Check.due("two of four", x.perform(0), 2);
         Check.same("as told one by one", Bounds.story(x), Bounds.story(y));
+    }
+
+    /** "100 times the DIE, 10 times the HAND, and the face": each of them, of the most dice and hands. */
+    private static void promise14EveryNumber() {
+        String most = "die 1 1 1 1 1 1;".repeat(5) + "hand 0;".repeat(4);
+        for (int told = -20; told <= 620; told++) {
+            int d = Math.floorDiv(told, 100);
+            int h = Math.floorMod(told, 100) / 10;
+            int face = Math.floorMod(told, 10);
+            boolean can = d >= 0 && d < 5 && h < 4 && face >= 1 && face <= 6;
+            SugarDice x = Check.laid(most);
+            Check.fill(x, 2, 1, told);
+            Check.due("why of " + told, x.judge(2, 1), can ? 0 : 1);
+            Check.due("perform of " + told, x.perform(2), can ? 1 : 0);
+            if (can) {
+                Check.due("its die", x.past(0, 0), d);
+                Check.due("its hand", x.past(0, 1), h);
+                Check.due("its face", x.past(0, 2), face);
+                Check.due("the die that was thrown", x.die(d, 10), 1);
+                Check.due("the hand that threw", x.hand(h, 0), 1);
+            }
+        }
     }
 }

@@ -13,6 +13,7 @@ public final class BoundsTrayTest {
         promise54Image();
         promise55Restore();
         promise55AllIsAsInAnImage();
+        promise55ItsOwnThrows();
         promise55AllButTheTapeTheFaultAndTrays();
         promise56Count();
         Check.end();
@@ -294,6 +295,31 @@ public final class BoundsTrayTest {
             Check.sameState("restored again at " + thrown, x, was);
             Check.due("undone from there", x.back(thrown), 0);
             Check.due("its weights then", x.die(0, 7), 120);
+        }
+    }
+
+    private static SugarDice thrownTo(int many) {
+        SugarDice x = Check.laid("die 20 20 20 20 20 20;die 6 0 0 0 0 1 salt;hand 0;hand 9;");
+        for (int k = 0; k < many; k++) {
+            x.lot(k);
+            x.shows(k < 6 ? 0 : 1, k % 2, k % 2 * 5 + 1);
+        }
+        return x;
+    }
+
+    /** Throws that were made since the image are not in it, and those that were are undone as they were made. */
+    private static void promise55ItsOwnThrows() {
+        for (int k : new int[] {0, 1, 5, 6, 30, 58, 59}) {
+            SugarDice x = thrownTo(60);
+            x.image(0);
+            x.back(60);
+            x.evening(k, 40);
+            x.evening(k + 1, 40);
+            x.restore(0);
+            Check.due("back to throw " + k, x.back(60 - k), k);
+            SugarDice y = thrownTo(k);
+            y.lot(k);
+            Check.sameState("as it was ahead of throw " + k, x, Check.state(y));
         }
     }
 
