@@ -119,6 +119,9 @@ public final class BoundsBeatingTest {
         Bounds.asked("of two dice", Bounds.of("die 0 0 5 0 0 1;die 0 3 0 0 3 0;"), 0, x -> x.ring(-1));
         String turned = "die 0 3 0 0 3 0;die 0 0 5 0 0 1;die 1 0 0 5 0 0;";
         Bounds.asked("a is less than b and c, b more than c", Bounds.of(turned), 21, x -> x.ring(0));
+        Bounds.asked("and only so", Bounds.of(turned), 1, x -> x.ring(-1));
+        Bounds.asked("not by another first", Bounds.of(turned), -1, x -> x.ring(1));
+        Bounds.asked("the last three of five, turned", Bounds.of("die 1 0 0 0 0 0;die 1 0 0 0 0 0;" + turned), 1, x -> x.ring(-1));
         Bounds.asked("the last three of five", Bounds.of("die 1 0 0 0 0 0;die 1 0 0 0 0 0;" + RING), 234, x -> x.ring(0));
     }
 

@@ -82,11 +82,6 @@ public final class BoundsTrayTest {
                 Check.fill(x, 1, 0, 6, 6, 6, 6, 6);
                 x.tray(1, 0, many);
                 for (int other = 0; other < many; other++) {
-                    x.write(1, other, other == place ? 0 : 6);
-                }
-                Check.refused("a 0 at " + place + " of " + many, Check.ARGUMENT, () -> x.fits(1));
-                x.tray(1, 0, many);
-                for (int other = 0; other < many; other++) {
                     if (other != place) {
                         x.write(1, other, 6);
                     }
@@ -94,6 +89,8 @@ public final class BoundsTrayTest {
                 Check.refused("a 0 from the first at " + place + " of " + many, Check.ARGUMENT, () -> x.fits(1));
                 x.write(1, place, 6);
                 Check.due("a face there", x.fits(1), 1);
+                x.write(1, place, 0);
+                Check.refused("a 0 again at " + place + " of " + many, Check.ARGUMENT, () -> x.fits(1));
             }
         }
         SugarDice x = Check.laid("die 1 1 1 1 1 1;hand 0;");

@@ -191,6 +191,12 @@ public final class BoundsWitnessTest {
         Bounds.asked("a gone one", Bounds.FULL, 0, x -> x.worn(2, 1, 0, -1));
         Bounds.asked("a gone one, the first", Bounds.FULL, -1, x -> x.worn(2, 1, 0, 0));
         Bounds.asked("a face without weight", Bounds.FULL, 0, x -> x.worn(1, 1, 7, -1));
+        for (int k : new int[] {-1, 0}) {
+            int none = k == -1 ? 0 : -1;
+            Bounds.asked("no hands, a total of -1", told(Bounds.NO_HANDS, 0, 6), none, x -> x.worn(0, 0, -1, k));
+            Bounds.asked("a gone one, a total of -1", Bounds.FULL, none, x -> x.worn(2, 1, -1, k));
+            Bounds.asked("a face without weight, a total of -1", Bounds.FULL, none, x -> x.worn(1, 1, -1, k));
+        }
         Bounds.asked("salt", told(Bounds.FULL, 0, 6, 1), 4, x -> x.worn(1, 0, 7, -1));
         Bounds.asked("salt's other totals", told(Bounds.FULL, 0, 6, 1), 0, x -> x.worn(1, 0, 6, -1));
         Bounds.asked("with 60 throws", Bounds.SIXTY, 1, x -> x.worn(0, 0, 7, -1));
