@@ -38,10 +38,10 @@ public final class AntsTest {
     }
 
     private static void asIf() {
-        SugarDice x = Check.laid(TABLE);
-        String was = Check.state(x);
+        String was = Check.state(Check.laid(TABLE));
         for (int d = 0; d < 3; d++) {
             for (int minutes = 0; minutes <= 99; minutes++) {
+                SugarDice x = Check.laid(TABLE);
                 SugarDice y = Check.laid(TABLE);
                 if (minutes > 0) {
                     y.ants(minutes);
@@ -49,9 +49,10 @@ public final class AntsTest {
                 for (int face = 1; face <= 6; face++) {
                     Check.due("eaten(" + d + ", " + face + ", " + minutes + ")", x.eaten(d, face, minutes), y.die(d, face));
                 }
+                Check.sameState("as if", x, was);
             }
         }
-        Check.sameState("as if", x, was);
+        SugarDice x = Check.laid(TABLE);
         Check.refused("eaten(3, 1, 1)", Check.NO_SUCH, () -> x.eaten(3, 1, 1));
         Check.refused("eaten(-1, 0, -1)", Check.NO_SUCH, () -> x.eaten(-1, 0, -1));
         Check.refused("eaten(0, 0, 1)", Check.ARGUMENT, () -> x.eaten(0, 0, 1));

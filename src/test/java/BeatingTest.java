@@ -14,7 +14,8 @@ public final class BeatingTest {
         Check.end();
     }
 
-    private static long[] contest(SugarDice x, int a, int b) {
+    private static long[] contest(String table, int a, int b) {
+        SugarDice x = Check.laid(table);
         long[] ways = new long[3];
         for (int fa = 1; fa <= 6; fa++) {
             for (int fb = 1; fb <= 6; fb++) {
@@ -34,7 +35,7 @@ public final class BeatingTest {
             SugarDice x = Check.laid(table);
             for (int a = 0; a < x.count(1); a++) {
                 for (int b = 0; b < x.count(1); b++) {
-                    long[] want = contest(x, a, b);
+                    long[] want = contest(table, a, b);
                     Check.due("beats(" + a + ", " + b + ") of " + table, x.beats(a, b), want[2]);
                     Check.due("ties(" + a + ", " + b + ") of " + table, x.ties(a, b), want[1]);
                 }
@@ -85,9 +86,9 @@ public final class BeatingTest {
             int b = number / 10 % 10;
             int c = number % 10;
             if (a < b && a < c && b < x.count(1) && c < x.count(1) && b != c
-                && contest(x, a, b)[2] > contest(x, a, b)[0]
-                && contest(x, b, c)[2] > contest(x, b, c)[0]
-                && contest(x, c, a)[2] > contest(x, c, a)[0]) {
+                && contest(table, a, b)[2] > contest(table, a, b)[0]
+                && contest(table, b, c)[2] > contest(table, b, c)[0]
+                && contest(table, c, a)[2] > contest(table, c, a)[0]) {
                 Check.due("ring(" + many + ") of " + table, x.ring(many), number);
                 many++;
             }
@@ -104,7 +105,7 @@ public final class BeatingTest {
             SugarDice x = Check.laid(table);
             for (int a = 0; a < x.count(1); a++) {
                 for (int b = 0; b < x.count(1); b++) {
-                    long[] by = contest(x, a, b);
+                    long[] by = contest(table, a, b);
                     long l = by[0];
                     long t = by[1];
                     long w = by[2];
@@ -118,7 +119,8 @@ public final class BeatingTest {
         }
     }
 
-    private static long[] sums(SugarDice x, int d, int n) {
+    private static long[] sums(String table, int d, int n) {
+        SugarDice x = Check.laid(table);
         long[] ways = {1};
         for (int i = 0; i < n; i++) {
             long[] next = new long[ways.length + 6];
@@ -139,8 +141,8 @@ public final class BeatingTest {
                 for (int b = 0; b < x.count(1); b++) {
                     for (int n = 1; n <= 3; n++) {
                         long want = 0;
-                        long[] left = sums(x, a, n);
-                        long[] right = sums(x, b, n);
+                        long[] left = sums(table, a, n);
+                        long[] right = sums(table, b, n);
                         for (int s = 0; s < left.length; s++) {
                             for (int t = 0; t < s; t++) {
                                 want += left[s] * right[t];

@@ -133,13 +133,15 @@ public final class BoundsAntsTest {
     private static void promise16AsAntsWould() {
         for (int prefer = 1; prefer <= 6; prefer++) {
             String table = "ants " + prefer + ";die 20 0 20 9 19 20;";
-            SugarDice x = Check.laid(table);
-            SugarDice y = Check.laid(table);
             for (int minutes = 0; minutes <= 99; minutes++) {
+                SugarDice x = Check.laid(table);
+                SugarDice y = Check.laid(table);
+                for (int i = 0; i < minutes; i++) {
+                    y.ants(1);
+                }
                 for (int face = 1; face <= 6; face++) {
                     Check.due("eaten(0, " + face + ", " + minutes + ")", x.eaten(0, face, minutes), y.die(0, face));
                 }
-                y.ants(1);
             }
         }
     }

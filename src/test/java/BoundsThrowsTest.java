@@ -270,16 +270,25 @@ public final class BoundsThrowsTest {
         Check.sameState("back(1) of all at once", x, ahead);
     }
 
-    private static void promise10SixtyBack() {
+    private static SugarDice castTo(int many) {
         SugarDice x = Check.laid("die 20 20 20 20 20 20;die 6 0 0 0 0 1 salt;hand 0;hand 1;");
-        String[] ahead = new String[61];
-        for (int k = 0; k < 60; k++) {
-            ahead[k] = Check.state(x);
+        for (int k = 0; k < many; k++) {
             x.cast(k < 12 ? 0 : 1, k % 2, k);
         }
-        for (int k = 59; k >= 0; k--) {
-            Check.due("back to " + k, x.back(1), k);
-            Check.same("back to " + k, Check.state(x), ahead[k]);
+        return x;
+    }
+
+    private static void promise10SixtyBack() {
+        for (int k = 0; k < 60; k++) {
+            String ahead = Check.state(castTo(k));
+            SugarDice atOnce = castTo(60);
+            Check.due("back to " + k, atOnce.back(60 - k), k);
+            Check.sameState("back to " + k, atOnce, ahead);
+            SugarDice stepwise = castTo(60);
+            for (int left = 59; left >= k; left--) {
+                Check.due("step by step to " + left, stepwise.back(1), left);
+            }
+            Check.sameState("step by step to " + k, stepwise, ahead);
         }
     }
 

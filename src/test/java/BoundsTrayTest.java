@@ -273,30 +273,30 @@ public final class BoundsTrayTest {
     /** "All is as in an IMAGE": made at no throws, at one, at 60, and each time it is asked for. */
     private static void promise55AllIsAsInAnImage() {
         for (int thrown : new int[] {0, 1, 59, 60}) {
-            SugarDice x = Check.laid("ants 4;die 20 20 20 20 20 20;die 6 0 0 0 0 1 salt;hand 0;hand 9;");
-            x.lot(thrown);
-            for (int k = 0; k < thrown; k++) {
-                x.shows(k < 3 ? 0 : 1, k % 2, k % 2 * 5 + 1);
-            }
-            x.image(1);
-            String was = Check.state(x);
-            Check.read(x, "die 1 0 0 0 0 0;");
-            x.restore(1);
-            Check.sameState("restored at " + thrown, x, was);
-            x.rain(20);
-            x.fan(1);
-            x.salts(0);
-            x.lot(12345);
-            x.back(thrown);
-            x.restore(1);
-            Check.sameState("restored again at " + thrown, x, was);
-            Check.due("undone from there", x.back(thrown), 0);
-            Check.due("its weights then", x.die(0, 7), 120);
+            String was = Check.state(thrownTo(thrown));
+            SugarDice once = thrownTo(thrown);
+            once.image(1);
+            Check.read(once, "die 1 0 0 0 0 0;");
+            once.restore(1);
+            Check.sameState("restored at " + thrown, once, was);
+            SugarDice again = thrownTo(thrown);
+            again.image(1);
+            Check.read(again, "die 1 0 0 0 0 0;");
+            again.restore(1);
+            again.rain(20);
+            again.fan(1);
+            again.salts(0);
+            again.lot(12345);
+            again.back(thrown);
+            again.restore(1);
+            Check.sameState("restored again at " + thrown, again, was);
+            Check.due("undone from there", again.back(thrown), 0);
+            Check.due("its weights then", again.die(0, 7), 120);
         }
     }
 
     private static SugarDice thrownTo(int many) {
-        SugarDice x = Check.laid("die 20 20 20 20 20 20;die 6 0 0 0 0 1 salt;hand 0;hand 9;");
+        SugarDice x = Check.laid("ants 4;die 20 20 20 20 20 20;die 6 0 0 0 0 1 salt;hand 0;hand 9;");
         for (int k = 0; k < many; k++) {
             x.lot(k);
             x.shows(k < 6 ? 0 : 1, k % 2, k % 2 * 5 + 1);

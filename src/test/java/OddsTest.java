@@ -67,8 +67,8 @@ public final class OddsTest {
     }
 
     private static void sets() {
-        SugarDice x = Check.laid(TABLE);
         for (int set = 0; set < 32; set++) {
+            SugarDice x = Check.laid(TABLE);
             Told told = new Told(set);
             String of = " of set " + set;
             Check.due("whole" + of, x.whole(set), told.whole);
@@ -167,9 +167,9 @@ public final class OddsTest {
     }
 
     private static void bestSets() {
-        SugarDice x = Check.laid(TABLE);
         for (int n = 1; n <= 3; n++) {
             for (int sum = -1; sum <= 20; sum++) {
+                SugarDice x = Check.laid(TABLE);
                 int best = -1;
                 double odds = -1;
                 for (int set = 0; set < 32; set++) {
@@ -182,6 +182,7 @@ public final class OddsTest {
                 Check.due("bestSet(" + n + ", " + sum + ")", x.bestSet(n, sum), best);
             }
         }
+        SugarDice x = Check.laid(TABLE);
         Check.refused("bestSet(0, 1)", Check.ARGUMENT, () -> x.bestSet(0, 1));
         Check.refused("bestSet(4, 1)", Check.ARGUMENT, () -> x.bestSet(4, 1));
         Check.due("the least of all", x.bestSet(2, Integer.MIN_VALUE), 3);
@@ -295,9 +296,9 @@ public final class OddsTest {
     }
 
     private static void coins() {
-        SugarDice x = Check.laid(TABLE);
         for (int d = 0; d < 5; d++) {
             for (int coins = 1; coins <= 9; coins++) {
+                SugarDice x = Check.laid(TABLE);
                 for (int goal = coins + 1; goal <= 10; goal++) {
                     for (int n = 0; n <= 8; n++) {
                         String call = "coins(" + d + ", " + coins + ", " + goal + ", " + n + ")";
@@ -306,6 +307,7 @@ public final class OddsTest {
                 }
             }
         }
+        SugarDice x = Check.laid(TABLE);
         Check.refused("coins(5, 0, 0, -1)", Check.NO_SUCH, () -> x.coins(5, 0, 0, -1));
         Check.refused("coins(0, 0, 2, 1)", Check.ARGUMENT, () -> x.coins(0, 0, 2, 1));
         Check.refused("coins(0, 10, 11, 1)", Check.ARGUMENT, () -> x.coins(0, 10, 11, 1));

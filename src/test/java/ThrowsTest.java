@@ -53,12 +53,17 @@ public final class ThrowsTest {
         Check.due("no throw by these", x.count(4), 0);
     }
 
-    private static void sixtyThrows() {
+    private static SugarDice castSixty() {
         SugarDice x = Check.laid(TABLE);
         for (int i = 0; i < 60; i++) {
             x.cast(1, 0, i);
         }
-        String was = Check.state(x);
+        return x;
+    }
+
+    private static void sixtyThrows() {
+        SugarDice x = castSixty();
+        String was = Check.state(castSixty());
         Check.due("60 throws", x.count(4), 60);
         Check.due("heat is 9 at most", x.hand(0, 0), 9);
         Check.refused("a 61st cast", Check.STATE, () -> x.cast(1, 0, 1));

@@ -130,6 +130,27 @@ public final class TrayTest {
         Check.sameState("restore(2)", x, third);
         x.restore(1);
         Check.sameState("restore(1)", x, second);
+        imagesStay();
+        Check.refused("image(3)", Check.NO_SUCH, () -> taken(x, 3));
+        Check.refused("image(-1)", Check.NO_SUCH, () -> taken(x, -1));
+        Check.refused("restore(3)", Check.NO_SUCH, () -> restored(x, 3));
+        Check.refused("restore(-1)", Check.NO_SUCH, () -> restored(x, -1));
+        SugarDice y = new SugarDice();
+        y.image(1);
+        Check.read(y, TABLE);
+        y.restore(1);
+        Check.due("the image of a new one", y.count(1) + y.count(2) + y.count(0), 0);
+    }
+
+    private static void imagesStay() {
+        SugarDice x = Check.laid(TABLE);
+        x.lot(3);
+        x.shows(0, 0, 6);
+        x.shows(2, 1, 3);
+        x.image(0);
+        x.rain(2);
+        x.image(1);
+        String second = Check.state(x);
         x.ants(9);
         x.evening(8, 20);
         x.restore(1);
@@ -141,35 +162,6 @@ public final class TrayTest {
         x.cast(0, 0, 3);
         x.restore(0);
         Check.sameState("an image in place of another", x, fourth);
-        Check.refused("image(3)", Check.NO_SUCH, () -> taken(x, 3));
-        Check.refused("image(-1)", Check.NO_SUCH, () -> taken(x, -1));
-        Check.refused("restore(3)", Check.NO_SUCH, () -> restored(x, 3));
-        Check.refused("restore(-1)", Check.NO_SUCH, () -> restored(x, -1));
-        SugarDice y = new SugarDice();
-        y.image(1);
-        Check.read(y, TABLE);
-        y.restore(1);
-        Check.due("the image of a new one", y.count(1) + y.count(2) + y.count(0), 0);
-        longHistory();
-    }
-
-    /** An image has each throw's own undoing, up to the sixtieth. */
-    private static void longHistory() {
-        SugarDice x = Check.laid("die 20 20 20 20 20 20;die 1 1 1 1 1 1 salt;hand 0;hand 1;");
-        String[] states = new String[61];
-        for (int k = 0; k < 60; k++) {
-            x.lot(k);
-            states[k] = Check.state(x);
-            x.cast(k < 9 ? 0 : 1, k % 2, k);
-        }
-        x.image(2);
-        x.back(60);
-        x.evening(5, 40);
-        for (int k = 0; k < 60; k++) {
-            x.restore(2);
-            Check.due("back to throw " + k, x.back(60 - k), k);
-            Check.sameState("back to throw " + k, x, states[k]);
-        }
     }
 
     /** The tape, the fault and trays are neither in images nor undone by them or by back. */

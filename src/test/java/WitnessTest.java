@@ -38,13 +38,14 @@ public final class WitnessTest {
         String[] tables = {"die 1 2 3 4 5 6;", "die 6 0 0 0 0 1;", "die 20 20 20 20 20 20;", "die 20 0 3 0 17 1;", "die 0 0 0 9 0 0;"};
         for (String table : tables) {
             SugarDice x = Check.laid(table);
+            BigInteger[] told = toldOf(x);
             for (int n = 1; n <= 5; n++) {
                 BigInteger best = BigInteger.ZERO;
                 int plans = (int) Math.pow(7, n - 1);
                 for (int plan = 0; plan < plans; plan++) {
-                    best = best.max(meanOfPlan(x, plan, n));
+                    best = best.max(meanOfPlan(told, plan, n));
                 }
-                BigInteger whole = BigInteger.valueOf(x.die(0, 7)).pow(n);
+                BigInteger whole = told[7].pow(n);
                 BigInteger[] want = best.divideAndRemainder(whole);
                 Check.due("stopping(0, " + n + ", 0) of " + table, x.stopping(0, n, 0), want[0].longValueExact());
                 Check.due("stopping(0, " + n + ", 1) of " + table, x.stopping(0, n, 1), want[1].longValueExact());
@@ -52,7 +53,16 @@ public final class WitnessTest {
         }
     }
 
-    private static BigInteger meanOfPlan(SugarDice x, int plan, int n) {
+    /** Weights of the faces of die 0, and behind them its total. */
+    private static BigInteger[] toldOf(SugarDice x) {
+        BigInteger[] told = new BigInteger[8];
+        for (int what = 1; what <= 7; what++) {
+            told[what] = BigInteger.valueOf(x.die(0, what));
+        }
+        return told;
+    }
+
+    private static BigInteger meanOfPlan(BigInteger[] told, int plan, int n) {
         BigInteger mean = BigInteger.ZERO;
         BigInteger whole = BigInteger.ONE;
         int rest = plan;
@@ -62,10 +72,10 @@ public final class WitnessTest {
             BigInteger here = BigInteger.ZERO;
             for (int face = 1; face <= 6; face++) {
                 BigInteger worth = face >= least ? whole.multiply(BigInteger.valueOf(face)) : mean;
-                here = here.add(worth.multiply(BigInteger.valueOf(x.die(0, face))));
+                here = here.add(worth.multiply(told[face]));
             }
             mean = here;
-            whole = whole.multiply(BigInteger.valueOf(x.die(0, 7)));
+            whole = whole.multiply(told[7]);
         }
         return mean;
     }
@@ -168,16 +178,18 @@ public final class WitnessTest {
         String table = "die 4 9 0 1 3 20;hand 1;hand 8;hand 3;hand 0;";
         long[][] trays = {{2, 2, 6, 2, 1}, {6, 6, 6, 6, 6}, {1, 2, 1}, {4, 4}};
         for (long[] faces : trays) {
-            SugarDice x = Check.laid(table);
-            Check.fill(x, 0, 3, faces);
             int[] found = new int[121];
             for (int row = 0; row < 1 << 2 * faces.length; row++) {
                 int total = thrownBy(table, faces, row);
                 if (total >= 0) {
+                    SugarDice x = Check.laid(table);
+                    Check.fill(x, 0, 3, faces);
                     Check.due("worn row of " + total, x.worn(0, 0, total, found[total]), row);
                     found[total]++;
                 }
             }
+            SugarDice x = Check.laid(table);
+            Check.fill(x, 0, 3, faces);
             for (int total = 0; total <= 120; total++) {
                 Check.due("worn rows of " + total, x.worn(0, 0, total, -1), found[total]);
             }
