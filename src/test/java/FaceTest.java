@@ -1,4 +1,5 @@
 import java.lang.reflect.Constructor;
+import java.lang.reflect.Executable;
 import java.lang.reflect.Field;
 import java.lang.reflect.Method;
 import java.lang.reflect.Modifier;
@@ -15,19 +16,6 @@ import java.util.TreeSet;
 
 /** The public face of the document, and of LANGUAGE.md what can be seen from outside. */
 public final class FaceTest {
-    private static final String[] FACE = {
-        "long alike(int)", "int ants(int)", "int back(int)", "int beats(int,int)", "int bestSet(int,int)", "int cannot(int)",
-        "int cast(int,int,int)", "int count(int)", "int die(int,int)", "int eaten(int,int,int)", "int evenest()",
-        "int evening(int,int)", "int fan(int)", "int fault(int)", "int feed(int,int,int,int,int)", "int fits(int)",
-        "int hand(int,int)", "int judge(int,int)", "int lastFace(int)", "int lasts(int)", "int likelier(int)", "int loaded()",
-        "int lot(int)", "int mode(int)", "int off(int)", "int past(int,int)", "int perform(int)", "int pour(int)", "int rain(int)",
-        "int ring(int)", "int shows(int,int,int)", "int streak(int)", "int strongest()", "int sums(int)", "int table(int)",
-        "int tally(int,int)", "int ties(int,int)", "int worn(int,int,int,int)", "boolean salts(int)",
-        "long allFaces(int,int)", "long coins(int,int,int,int)", "long least(int,int)", "long mean(int,int)",
-        "long more(int,int,int)", "long once(int,int,int)", "long run(int)", "long series(int,int,int)",
-        "long stopping(int,int,int)", "long sum(int,int)", "long unlike(int)", "long whole(int)", "long write(int,int,long)",
-        "void image(int)", "void restore(int)", "void tray(int,int,int)"};
-
     public static void main(String[] args) throws Exception {
         face();
         members(SugarDice.class);
@@ -41,22 +29,40 @@ public final class FaceTest {
         Check.end();
     }
 
-    private static void face() {
-        Set<String> want = new TreeSet<>(Arrays.asList(FACE));
+    /** The document's members and no others, each with its modifiers, types and the exceptions that it names, in order. */
+    private static void face() throws Exception {
+        Set<String> want = new TreeSet<>();
+        for (String declared : DocFace.declarations()) {
+            want.add(declared.replaceAll("(int|long) \\w+(?=[,)])", "$1"));
+        }
+        Check.due("members of the document's face", want.size(), 57);
         Set<String> got = new TreeSet<>();
         for (Method m : SugarDice.class.getDeclaredMethods()) {
             if (!Modifier.isPrivate(m.getModifiers())) {
-                String types = String.join(",", Arrays.stream(m.getParameterTypes()).map(Class::getName).toList());
-                got.add(m.getReturnType() + " " + m.getName() + "(" + types + ")");
+                got.add(Modifier.toString(m.getModifiers()) + " " + m.getReturnType() + " " + m.getName() + behindName(m));
             }
         }
-        Check.due("the face is " + got + " and should be " + want, got.equals(want), true);
-        Check.due("final", Modifier.isFinal(SugarDice.class.getModifiers()), true);
-        Constructor<?>[] made = SugarDice.class.getDeclaredConstructors();
-        Check.due("one constructor", made.length == 1 && made[0].getParameterCount() == 0, true);
-        for (Field f : SugarDice.class.getDeclaredFields()) {
-            Check.due(f.getName() + " is private or NONE", Modifier.isPrivate(f.getModifiers()) || f.getName().equals("NONE"), true);
+        for (Constructor<?> made : SugarDice.class.getDeclaredConstructors()) {
+            got.add(Modifier.toString(made.getModifiers()) + " " + made.getName() + behindName(made));
         }
+        for (Field f : SugarDice.class.getDeclaredFields()) {
+            if (!Modifier.isPrivate(f.getModifiers())) {
+                got.add(Modifier.toString(f.getModifiers()) + " " + f.getType() + " " + f.getName() + " = " + f.get(null));
+            }
+        }
+        for (String member : want) {
+            Check.due("the face has " + member, got.contains(member), true);
+        }
+        for (String member : got) {
+            Check.due("the document has " + member, want.contains(member), true);
+        }
+        Check.same("the class's kind:", Modifier.toString(SugarDice.class.getModifiers()), "public final");
+    }
+
+    private static String behindName(Executable e) {
+        String types = String.join(", ", Arrays.stream(e.getParameterTypes()).map(Class::getName).toList());
+        String named = String.join(", ", Arrays.stream(e.getExceptionTypes()).map(Class::getSimpleName).toList());
+        return "(" + types + ")" + (named.isEmpty() ? "" : " throws " + named);
     }
 
     private static void members(Class<?> type) {
